@@ -48,11 +48,19 @@ final class CityTest {
             check.due("2 of a part", x.city(2, lane, 4, Desk.ROW.length()), 3);
             check.due("2 no fault", x.fault(), 0);
         }
+        Desk.writeText(x, 2, 0, 0, "y200-01,p000,s111");
+        check.due("2 cells beyond it don't matter", x.city(2, 0, 0, 12), 1);
+        check.due("2 nor do they for a fault", x.city(2, 0, 0, 13), -113);
     }
 
     private static void firstFaults() {
         firstFault("", 0);
         firstFault("x", 0);
+        firstFault(",p000", 0);
+        firstFault("y,p000", 1);
+        firstFault("y203-,p000", 5);
+        firstFault("y203-0,p000", 6);
+        firstFault("y203-11", 6);
         firstFault("Y200,p000", 0);
         firstFault("y", 1);
         firstFault("y1", 1);
@@ -139,6 +147,7 @@ final class CityTest {
         check.due("2 sheets stay", x.cell(3, 0, 2), 'y');
         Desk.tell(x, Desk.ROW);
         check.due("2 third city has its own corners", x.many(2), 4);
+        check.due("2 first street, too", x.ofStreet(0, 1), 2);
         check.due("2 third city has its own season", x.ofStreet(0, 0), 0);
     }
 

@@ -211,6 +211,7 @@ final class ReadingsTest {
         share(x, 2, 0, 3, 1, 1);
         share(x, 2, 1, 3, 0, 1);
         share(x, 1, 0, 6, 1, 32);
+        share(Desk.withCity("y201-01,p111"), 0, 0, 4, 1, 8);
         SeasonStreets apart = apart(",p000");
         share(apart, 0, 0, 2, 0, 1);
         share(apart, 0, 0, 6, 1, 1);

@@ -171,6 +171,7 @@ final class RoutesTest {
         quickestRow(x, 2, 3, "333344");
         quickestRow(x, 2, 0, "012333344");
         quickestRow(x, 7, 2, "21012333344");
+        quickestRow(meeting(",p123"), 1, 0, "0123");
         x.corner(2, 3, false);
         check.due("8 no way", x.quickest(2, 0, -1), NONE);
         check.due("8 no way, no day", x.quickest(2, 0, 0), NONE);
@@ -237,6 +238,9 @@ final class RoutesTest {
         round.corner(1, 2, false);
         check.due("9 no way", round.mild(0, 1), NONE);
         check.due("9 to itself", round.mild(1, 1), 0);
+        SeasonStreets most = Desk.withCity("y6020202-01-12-23-34-45,p000");
+        check.due("9 the most colds of all", most.mild(0, 5), 10);
+        check.due("9 the most colds of all, back", most.mild(5, 0), 10);
         check.due("9 street 5", round.mild(0, 5), UNKNOWN);
         check.due("9 street -1", round.mild(-1, 0), UNKNOWN);
         check.due("9 no city", new SeasonStreets().mild(0, 0), UNKNOWN);
@@ -253,6 +257,10 @@ final class RoutesTest {
         check.due("10 none has a way to all", x.best(), NONE);
         x.corner(4, 1, true);
         check.due("10 a star's middle", x.best(), 1);
+        SeasonStreets most = Desk.withCity("y6020202-05-50-04-13-32,p000");
+        check.due("10 in two parts", most.best(), NONE);
+        most.corner(4, 1, true);
+        check.due("10 both parts together", most.best(), 0);
         SeasonStreets last = Desk.withCity("y3021-02-21,p000");
         check.due("10 the last one", last.best(), 2);
     }

@@ -216,10 +216,44 @@ final class SheetsTest {
         x.put(3, 0, 0);
         x.as(0, 0);
         check.due("26 as came to none", x.fault(), 0);
+        refusedIsNoFault(x);
         SeasonStreets none = new SeasonStreets();
         none.sheet(0, 2, 1);
         none.put(3, 0, 0);
         none.route(0, 2, 0, 1, 0);
         check.due("26 route without a city", none.fault(), 0);
+    }
+
+    /** Calls that name faults, each refused once as unknown and once as outside where it can be. */
+    private static void refusedIsNoFault(SeasonStreets x) {
+        for (int call = 0; call < 18; call++) {
+            x.put(3, 0, 0);
+            long answer = refused(x, call);
+            check.due("26 call " + call + " is refused", answer == LOST ? OUTSIDE : answer, -1 - call % 2);
+            check.due("26 call " + call + " came to none", x.fault(), 0);
+        }
+    }
+
+    private static long refused(SeasonStreets x, int call) {
+        switch (call) {
+            case 0: return x.city(4, 0, 0, 1);
+            case 1: return x.city(3, 3, 0, 1);
+            case 2: return x.route(4, 0, 0, 1, 0);
+            case 3: return x.route(3, 0, 0, 25, 0);
+            case 4: return x.seasons(5, 3, 0, 0, 1);
+            case 5: return x.seasons(0, 3, 3, 0, 1);
+            case 6: return x.kinds(0, 4, 0, 0, 1);
+            case 7: return x.kinds(0, 3, 0, 0, 25);
+            case 8: return x.wishes(3, 0, 3, 0, 0, 1);
+            case 9: return x.wishes(0, 3, 3, 0, 0, 1);
+            case 10: return x.sheet(4, 0, 1);
+            case 11: return x.sheet(3, 0, 61);
+            case 12: return x.copy(0, 0, 4, 0, 1);
+            case 13: return x.cell(3, 0, 3);
+            case 14: return x.put(4, 0, 1);
+            case 15: return x.wishes(0, 0, 3, 3, 0, 1);
+            case 16: return x.as(3, 0);
+            default: return x.as(0, 3);
+        }
     }
 }
