@@ -172,6 +172,7 @@ final class RoutesTest {
         quickestRow(x, 2, 0, "012333344");
         quickestRow(x, 7, 2, "21012333344");
         quickestRow(meeting(",p123"), 1, 0, "0123");
+        quickestRow(meeting(",p123,p122,w112"), 7, 0, "01223");
         x.corner(2, 3, false);
         check.due("8 no way", x.quickest(2, 0, -1), NONE);
         check.due("8 no way, no day", x.quickest(2, 0, 0), NONE);
